@@ -223,12 +223,12 @@ public final class FlyerRoom {
 
     public int seal(int which) {
         if (!within(which, 0, 1)) return 0;
-        return plan.programs[which == 0 ? flight.active : 1 - flight.active].sealed();
+        return plan.programs[which == 0 ? flight.active : 1 - flight.active].sealNumber();
     }
 
     public int begin(int frame, int seal) {
         if (!within(frame, 0, LAST_TOLD_FRAME)) return BAD;
-        if (frame < flight.frame || seal != plan.programs[1 - flight.active].sealed()) return NO;
+        if (frame < flight.frame || seal != plan.programs[1 - flight.active].sealNumber()) return NO;
         flight.due = frame;
         return 1;
     }
@@ -281,9 +281,16 @@ public final class FlyerRoom {
     }
 
     public int cause() {
-        if (plan.boxSize == 0) return WITHOUT_ANY;
         readyProofs();
-        return proofs.causeOfBox(flight);
+        if (proofs.givesBoxPlain(flight)) return WITHOUT_ANY;
+        int readCells = plan.readCells();
+        for (int frame = 0; frame < plan.boxSize; frame++) {
+            int found = proofs.firstFlip(frame, readCells);
+            if (found != NONE) return 100000 * frame + found;
+            // Once the flight is off the box without a flip, no later flip can mend it.
+            if (!proofs.keepsBox(frame)) return NONE;
+        }
+        return NONE;
     }
 
     public int guess(int sort, int what) {
@@ -426,7 +433,7 @@ public final class FlyerRoom {
             size++;
         }
 
-        int sealed() {
+        int sealNumber() {
             int h = 17;
             for (int i = 0; i < size; i++) {
                 h = 31 * h + acts[i];
@@ -747,7 +754,7 @@ public final class FlyerRoom {
                     top++;
                 } else if (sign == '!' || sign == NEGATIVE) {
                     if (top < 1) return 0;
-                    stack[top - 1] = sign == '!' ? truth(stack[top - 1] == 0) : -stack[top - 1];
+                    stack[top - 1] = signed(sign, stack[top - 1]);
                 } else {
                     if (top < 2) return 0;
                     top--;
@@ -755,6 +762,11 @@ public final class FlyerRoom {
                 }
             }
             return stack[0];
+        }
+
+        private static long signed(int sign, long number) {
+            if (sign == NEGATIVE) return -number;
+            return number == 0 ? 1 : 0;
         }
 
         private static long numberOf(int letter, Flight flight) {
@@ -770,20 +782,16 @@ public final class FlyerRoom {
 
         private static long joined(int sign, long left, long right) {
             switch (sign) {
-                case '|': return truth(left != 0 || right != 0);
-                case '&': return truth(left != 0 && right != 0);
-                case '<': return truth(left < right);
-                case '>': return truth(left > right);
-                case '=': return truth(left == right);
+                case '|': return left != 0 || right != 0 ? 1 : 0;
+                case '&': return left != 0 && right != 0 ? 1 : 0;
+                case '<': return left < right ? 1 : 0;
+                case '>': return left > right ? 1 : 0;
+                case '=': return left == right ? 1 : 0;
                 case '+': return left + right;
                 case '-': return left - right;
                 case '*': return left * right;
                 default: return right == 0 ? 0 : left / right;
             }
-        }
-
-        private static long truth(boolean holds) {
-            return holds ? 1 : 0;
         }
     }
 
@@ -913,12 +921,13 @@ public final class FlyerRoom {
 
     /** What the lanes said in a frame and what came of it. */
     private static final class Words {
-        private final int[] said = new int[WORDS * MOST_LANES];
-        private final int[] saidBy = new int[WORDS];
+        final int[] said = new int[WORDS * MOST_LANES];
+        final int[] saidBy = new int[WORDS];
         final int[] results = new int[WORDS];
         int resultSet;
 
         void clear() {
+            for (int i = 0; i < WORDS * MOST_LANES; i++) said[i] = 0;
             for (int word = 0; word < WORDS; word++) {
                 saidBy[word] = 0;
                 results[word] = 0;
@@ -935,8 +944,9 @@ public final class FlyerRoom {
             return (saidBy[word] >> lane & 1) == 1;
         }
 
+        /** What a lane said of a word; 0: nothing. */
         int saidOf(int word, int lane) {
-            return isSaid(word, lane) ? said[word * MOST_LANES + lane] : 0;
+            return said[word * MOST_LANES + lane];
         }
 
         void settle(int word, int result) {
@@ -1124,36 +1134,31 @@ public final class FlyerRoom {
             return at < first || at >= end;
         }
 
-        /** The place of the step to be taken next, or FAILS. */
+        /** The place of the step to be taken next, or FAILS; isStep() has looked at every cell and word used here. */
         private static int takeStep(Flight flight, int lane, Program program, int at) {
             int[] cells = flight.lanes[lane].cells;
             int a = program.as[at];
             int b = program.bs[at];
+            int c = program.cs[at];
             switch (program.acts[at]) {
                 case SET: cells[a] = b; break;
+                case ADD: cells[a] = cells[b] + cells[c]; break;
+                case LESS: cells[a] = cells[b] - cells[c]; break;
+                case TIMES: cells[a] = cells[b] * cells[c]; break;
+                case BY:
+                    if (cells[c] == 0) return FAILS;
+                    cells[a] = cells[b] / cells[c];
+                    break;
+                case LEAST: cells[a] = Math.min(cells[b], cells[c]); break;
+                case GREATEST: cells[a] = Math.max(cells[b], cells[c]); break;
                 case LEAP: return cells[a] > 0 ? at + 1 + b : at + 1;
                 case SENSE: cells[a] = flight.votedOfSort[b]; break;
                 case SAY:
                     if (flight.lanes[lane].muteFor == 0) flight.words.take(b, lane, cells[a]);
                     break;
-                case AGAIN: return cells[a] > 0 ? at - b : at + 1;
-                default:
-                    int right = cells[program.cs[at]];
-                    if (program.acts[at] == BY && right == 0) return FAILS;
-                    cells[a] = reckoned(program.acts[at], cells[b], right);
+                default: return cells[a] > 0 ? at - b : at + 1;
             }
             return at + 1;
-        }
-
-        private static int reckoned(int act, int left, int right) {
-            switch (act) {
-                case ADD: return left + right;
-                case LESS: return left - right;
-                case TIMES: return left * right;
-                case BY: return right == 0 ? 0 : left / right;
-                case LEAST: return left < right ? left : right;
-                default: return left > right ? left : right;
-            }
         }
 
         private void voteWords(Flight flight) {
@@ -1335,23 +1340,21 @@ public final class FlyerRoom {
             return plain.areLanesAlike(flipped) ? DIES : HIDES;
         }
 
-        int causeOfBox(Flight flight) {
-            flipped.copyFrom(flight);
-            if (givesBox(0)) return WITHOUT_ANY;
-            int readCells = plan.readCells();
+        /** Whether the box comes without a flip; the plain flight then stands where the search begins. */
+        boolean givesBoxPlain(Flight flight) {
             plain.copyFrom(flight);
-            for (int frame = 0; frame < plan.boxSize; frame++) {
-                int found = firstFlip(frame, readCells);
-                if (found != NONE) return 100000 * frame + found;
-                pilot.flyFrame(plain);
-                // Once the flight is off the box without a flip, no later flip can mend it.
-                if (plain.mover != plan.boxWords[frame]) return NONE;
-            }
-            return NONE;
+            flipped.copyFrom(flight);
+            return givesBox(0);
+        }
+
+        /** Whether the plain flight, taken one frame on, says the box's word of it. */
+        boolean keepsBox(int frame) {
+            pilot.flyFrame(plain);
+            return plain.mover == plan.boxWords[frame];
         }
 
         /** The first flip ahead of this frame that gives the box; what no step reads can not change a word. */
-        private int firstFlip(int frame, int readCells) {
+        int firstFlip(int frame, int readCells) {
             for (int lane = 0; lane < plan.laneCount; lane++) {
                 for (int cell = 0; cell < CELLS; cell++) {
                     if ((readCells >> cell & 1) == 0) continue;
