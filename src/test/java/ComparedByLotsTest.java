@@ -12,6 +12,8 @@ public final class ComparedByLotsTest {
     private final List<String> told = new ArrayList<>();
     private boolean wrong = false;
     private int dear = 0;
+    // A calm run seldom loses its program or its slots.
+    private boolean calm = false;
 
     private ComparedByLotsTest(long seed) {
         lots = new Random(seed);
@@ -90,8 +92,37 @@ public final class ComparedByLotsTest {
         }
     }
 
+    /** A flight that remembers from frame to frame and says what it remembers, so that flips come to something. */
+    private void beginWell() {
+        int lanes = Math.min(lot(1, 4), lot(1, 4)), kind = lot(0, 1), span = lot(0, 30);
+        same("lanes(" + lanes + ")", room.lanes(lanes), plain.lanes(lanes));
+        for (int i = lot(1, 3); i > 0; i--) sensor();
+        if (lots.nextBoolean()) tellStep(8, 0, lot(0, 1), 0);
+        else tellStep(0, 0, lot(-2, 2), 0);
+        tellStep(lot(1, 2), 1, 1, 0);
+        if (lots.nextBoolean()) tellStep(0, 3, lot(-3, 3), 0);
+        if (lots.nextBoolean()) tellStep(lot(3, 6), 2, 1, 3);
+        if (lots.nextBoolean()) tellStep(7, lot(0, 4), lot(1, 2), 0);
+        for (int i = lot(-3, 3); i > 0; i--) step();
+        tellStep(9, lot(1, 2), 0, 0);
+        if (lots.nextBoolean()) tellStep(10, lot(0, 4), lot(1, 4), 0);
+        tellStep(9, lot(0, 4), lot(0, 3), 0);
+        same("word(0)", room.word(0, kind, span), plain.word(0, kind, span));
+        same("limit(0)", room.limit(0, -1000, 1000), plain.limit(0, -1000, 1000));
+        same("body", room.body(500, 0), plain.body(500, 0));
+        same("part(0, 0, 60)", room.part(0, 0, 60), plain.part(0, 0, 60));
+        int ticks = lot(4, 30);
+        same("slot(0, 0, " + ticks + ")", room.slot(0, 0, ticks), plain.slot(0, 0, ticks));
+        int k = lot(1, 4), m = lot(1, 6);
+        same("aside(" + k + ", " + m + ")", room.aside(k, m), plain.aside(k, m));
+    }
+
     private void step() {
         int[] s = someStep();
+        tellStep(s[0], s[1], s[2], s[3]);
+    }
+
+    private void tellStep(int... s) {
         same("step(" + s[0] + ", " + s[1] + ", " + s[2] + ", " + s[3] + ")",
             room.step(s[0], s[1], s[2], s[3]), plain.step(s[0], s[1], s[2], s[3]));
     }
@@ -130,7 +161,7 @@ public final class ComparedByLotsTest {
             same("leave()", room.leave(), plain.leave());
         } else if (what < 3) {
             int frame = near(plain.now(4), plain.now(4) + 4);
-            int seal = lots.nextInt(6) == 0 ? lots.nextInt() : plain.seal(1);
+            int seal = lots.nextInt(calm ? 2 : 6) < 1 || calm && plain.count(6) < 6 ? lots.nextInt() : plain.seal(1);
             same("begin(" + frame + ", " + seal + ")", room.begin(frame, seal), plain.begin(frame, seal));
         } else {
             int[] s = someStep();
@@ -142,7 +173,8 @@ public final class ComparedByLotsTest {
     }
 
     private void fate() {
-        int lane = near(0, 2), cell = near(0, 6), bit = near(0, 31), k = near(1, 20), what = near(0, 3);
+        int lane = near(0, 1), cell = near(0, 4), bit = near(0, 31), k = near(1, 20), what = near(0, 3);
+        if (lots.nextBoolean()) bit = lot(0, 9);
         same("fate(" + lane + ", " + cell + ", " + bit + ", " + k + ", " + what + ")",
             room.fate(lane, cell, bit, k, what), plain.fate(lane, cell, bit, k, what));
     }
@@ -158,7 +190,7 @@ public final class ComparedByLotsTest {
         same("image(1)", room.image(1), plain.image(1));
         int frames = lot(1, 4), at = lot(0, frames - 1);
         if (lots.nextInt(4) > 0) {
-            int frame = plain.now(4) + at, lane = lot(0, 2), cell = lot(0, 5), bit = lot(0, 9);
+            int frame = plain.now(4) + at, lane = Math.min(lot(0, 2), lot(0, 2)), cell = lot(1, 3), bit = lot(0, 9);
             same("harm", room.harm(0, frame, lane, cell, bit), plain.harm(0, frame, lane, cell, bit));
         }
         int[] words = new int[frames];
@@ -221,11 +253,12 @@ public final class ComparedByLotsTest {
                 same("air(" + a + ", " + b + ", " + c + ")", room.air(a, b, c), plain.air(a, b, c));
                 return;
             case 4:
-                a = near(0, 3); b = near(-1000, 100); c = near(-100, 1000);
+                a = near(0, 3); b = near(-1000, -90); c = near(90, 1000);
+                if (!calm && lots.nextInt(4) == 0) b = near(-10, 20);
                 same("limit(" + a + ", " + b + ", " + c + ")", room.limit(a, b, c), plain.limit(a, b, c));
                 return;
             case 5:
-                if (lots.nextInt(3) == 0) same("unslot()", room.unslot(), plain.unslot());
+                if (lots.nextInt(calm ? 20 : 3) == 0) same("unslot()", room.unslot(), plain.unslot());
                 slot();
                 return;
             case 6:
@@ -251,7 +284,8 @@ public final class ComparedByLotsTest {
     private void anyCall() {
         int i = near(0, 1);
         switch (lots.nextInt(24)) {
-            case 0: case 1: harm(); return;
+            case 0: harm(); return;
+            case 1: if (lots.nextInt(5) == 0) fly(100); return;
             case 2: case 3: case 4: setting(); return;
             case 5: case 6: case 7: proof(); return;
             case 8: case 9: newProgram(); return;
@@ -260,14 +294,15 @@ public final class ComparedByLotsTest {
             case 12: same("image(" + i + ")", room.image(i), plain.image(i)); return;
             case 13: same("from(" + i + ")", room.from(i), plain.from(i)); return;
             case 14: i = near(1, 4); same("lanes(" + i + ")", room.lanes(i), plain.lanes(i)); return;
-            case 15: fly(100); return;
-            case 16: case 17: look(); return;
+            case 15: case 16: case 17: look(); return;
             default: fly(4);
         }
     }
 
     private boolean holds() {
-        begin();
+        calm = lots.nextInt(3) > 0;
+        if (calm) beginWell();
+        else begin();
         for (int i = 0; i < CALLS && !wrong && told.size() < 512; i++) {
             anyCall();
             same("digest()", room.digest(), plain.digest());
