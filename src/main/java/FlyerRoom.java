@@ -240,7 +240,7 @@ public final class FlyerRoom {
         if (!within(k, 1, MOST_FATE_FRAMES) || !within(what, 0, 3)) return BAD_FATE;
         readyProofs();
         proofs.flyPlain(flight, k);
-        proofs.flyFlipped(flight, lane, cell, bit, k);
+        proofs.flyFlipped(flight, lane, cell, bit, k, true);
         switch (what) {
             case 0: return proofs.fateOfFlip();
             case 1: return proofs.firstUnlike;
@@ -259,7 +259,7 @@ public final class FlyerRoom {
             // What no step reads has the same fate for every bit, so one bit stands for all.
             int alikeBits = (readCells >> cell & 1) == 1 ? 1 : BITS;
             for (int bit = 0; bit < BITS; bit += alikeBits) {
-                proofs.flyFlipped(flight, lane, cell, bit, k);
+                proofs.flyFlipped(flight, lane, cell, bit, k, false);
                 if (proofs.fateOfFlip() == fate) found += alikeBits;
             }
         }
@@ -927,8 +927,8 @@ public final class FlyerRoom {
         int resultSet;
 
         void clear() {
-            for (int i = 0; i < WORDS * MOST_LANES; i++) said[i] = 0;
             for (int word = 0; word < WORDS; word++) {
+                for (int lane = 0; lane < MOST_LANES && saidBy[word] != 0; lane++) said[word * MOST_LANES + lane] = 0;
                 saidBy[word] = 0;
                 results[word] = 0;
             }
@@ -1317,7 +1317,8 @@ public final class FlyerRoom {
             }
         }
 
-        void flyFlipped(Flight flight, int lane, int cell, int bit, int k) {
+        /** Not to the end, it flies no further than the frame that settles the fate as REACHES. */
+        void flyFlipped(Flight flight, int lane, int cell, int bit, int k, boolean toTheEnd) {
             firstUnlike = NONE;
             greatestUnlike = 0;
             firstAside = NONE;
@@ -1327,6 +1328,7 @@ public final class FlyerRoom {
                 pilot.flyFrame(flipped);
                 int size = Math.abs(flipped.mover - plainMover[i]);
                 if (size > 0 && firstUnlike == NONE) firstUnlike = i;
+                if (size > 0 && !toTheEnd) return;
                 if (size > greatestUnlike) greatestUnlike = size;
                 boolean asideOnlySo = ((flipped.newlyAside & ~plainAside[i]) >> lane & 1) == 1;
                 if (asideOnlySo && firstAside == NONE) firstAside = i;
