@@ -205,6 +205,11 @@ public final class FlyingTest {
         due.is("TWIN, no other", x.cell(2, 4), 0);
         due.is("TWIN of the last", x.cell(2, 5), 2);
         due.is("TWIN of the last, the first", x.cell(0, 5), 2);
+        x.harm(1, 4, 1, 6, 0);
+        x.fly(1);
+        due.is("TWIN of the middle", x.cell(1, 6), 1);
+        due.is("TWIN of the middle, the last", x.cell(2, 6), 1);
+        due.is("TWIN of the middle, not the first", x.cell(0, 6), 0);
         FlyerRoom one = new FlyerRoom();
         one.lanes(1);
         one.harm(1, 0, 0, 4, 2);
@@ -222,6 +227,12 @@ public final class FlyingTest {
         fewer.fly(1);
         due.is("of a lane that is not there: cell(0, 0)", fewer.cell(0, 0), 0);
         due.is("of a lane that is not there: cell(1, 0)", fewer.cell(1, 0), 0);
+        FlyerRoom oneFewer = new FlyerRoom();
+        oneFewer.lanes(4);
+        oneFewer.harm(1, 0, 3, 0, 0);
+        oneFewer.lanes(3);
+        oneFewer.fly(1);
+        due.is("the next of a lane just gone", oneFewer.cell(0, 0), 0);
         FlyerRoom wrapped = new FlyerRoom();
         wrapped.lanes(4);
         wrapped.harm(1, 0, 1, 0, 0);
@@ -248,6 +259,7 @@ public final class FlyingTest {
         due.is("STUCK", x.sensed(0), 706);
         x.fly(50);
         due.is("STUCK from then on", x.sensed(0), 706);
+        due.is("and the one stuck ahead of it, too", x.sensed(1), 0);
     }
 
     private static void mute() {
@@ -329,6 +341,13 @@ public final class FlyingTest {
         due.is("lane(0, 0)", x.lane(0, 0), 1);
         due.is("of the least lane in", x.cell(0, 5), 1);
         due.is("cell(0, 0)", x.cell(0, 0), 0);
+        FlyerRoom y = Due.sayers(3);
+        y.aside(1, 2);
+        y.harm(0, 0, 2, 0, 4);
+        y.harm(0, 0, 0, 5, 0);
+        y.harm(0, 0, 1, 5, 1);
+        y.fly(3);
+        due.is("of lane 0, if that is in", y.cell(2, 5), 1);
     }
 
     public static void main(String[] args) {

@@ -6,6 +6,11 @@ public final class ImagesTest {
     /** A flight in which every kind of thing has been told and flown. */
     private static FlyerRoom rich() {
         FlyerRoom x = new FlyerRoom();
+        fillAsRich(x);
+        return x;
+    }
+
+    private static void fillAsRich(FlyerRoom x) {
         x.lanes(4);
         x.sensor(0, 3, 5, 10);
         x.sensor(0, -3, -5, 10);
@@ -34,7 +39,6 @@ public final class ImagesTest {
         x.box(30);
         x.clock(1, 500, 3);
         x.fly(6);
-        return x;
     }
 
     /** All answers that tell something, in one number. */
@@ -107,6 +111,73 @@ public final class ImagesTest {
         due.is("images are not kept in images, nor changed by flying on", all(x), spoilt);
     }
 
+    /** A flight that has nothing in common with the rich one. */
+    private static void tellOther(FlyerRoom x) {
+        x.lanes(2);
+        for (int i = 0; i < 6; i++) x.sensor(1 - i % 2, 50 + i, 7 - i, 90 * i);
+        int[][] steps = {{0, 2, 7, 5}, {4, 3, 2, 9}, {6, 4, 1, 2}, {9, 4, 1, 8}, {1, 5, 5, 2}, {9, 5, 0, 3}};
+        for (int[] s : steps) x.step(s[0], s[1], s[2], s[3]);
+        x.part(0, 3, 6);
+        x.part(1, 0, 3);
+        x.slot(1, 20, 2);
+        x.slot(0, 0, 9);
+        x.slot(1, 11, 2);
+        x.aside(1, 1);
+        x.limit(0, -7, 9);
+        x.limit(1, 3, 4);
+        Due.write(x, "1-m");
+        int[][] harms = {{2, 0, 5, 0, 0}, {4, 2, 1, 0, 0}, {1, 7, 1, 5, 3}, {0, 8, 0, 5, 2}, {3, 9, 0, 0, 0}, {2, 1, 4, 0, 0}};
+        for (int[] h : harms) x.harm(h[0], h[1], h[2], h[3], h[4]);
+        x.piece(2, 9, 8, 7);
+        x.box(4);
+        x.box(3);
+        x.fly(5);
+    }
+
+    /** What an image brings back shows whatever stood there, whether more or less, now and as it flies on. */
+    private static void imagesOfOtherFlights() {
+        due.promise(36);
+        FlyerRoom other = new FlyerRoom();
+        tellOther(other);
+        FlyerRoom x = rich();
+        FlyerRoom y = new FlyerRoom();
+        y.image(0);
+        tellOther(y);
+        y.image(1);
+        y.from(0);
+        due.is("as new", all(y), all(new FlyerRoom()));
+        fillAsRich(y);
+        y.image(0);
+        due.is("rich", all(y), all(x));
+        for (int i = 0; i < 4; i++) {
+            y.from(1);
+            other = new FlyerRoom();
+            tellOther(other);
+            due.is("the other flight", all(y), all(other));
+            y.fly(i + 1);
+            other.fly(i + 1);
+            due.is("the other flight, " + (i + 1) + " on", all(y), all(other));
+            y.from(0);
+            x = rich();
+            due.is("the rich flight", all(y), all(x));
+            y.fly(2 * i + 2);
+            x.fly(2 * i + 2);
+            due.is("the rich flight, " + (2 * i + 2) + " on", all(y), all(x));
+        }
+        // What was said in the kept frame is gone in the next, in which nobody says anything.
+        FlyerRoom z = Due.sayers(3);
+        z.harm(1, 0, 0, 0, 5);
+        z.fly(1);
+        z.image(0);
+        z.unslot();
+        z.fly(1);
+        z.from(0);
+        due.is("voted(0, 2)", z.voted(0, 2), 32);
+        z.unslot();
+        z.fly(1);
+        due.is("voted(0, 2), nothing said", z.voted(0, 2), 0);
+    }
+
     private static void fromTheBeginning() {
         due.promise(36);
         FlyerRoom x = new FlyerRoom();
@@ -177,6 +248,7 @@ public final class ImagesTest {
 
     public static void main(String[] args) {
         images();
+        imagesOfOtherFlights();
         fromTheBeginning();
         count();
         digest();

@@ -146,6 +146,9 @@ public final class LanesTest {
         due.is("AGAIN, what it did stays", ran(10, loop).cell(0, 2), 3);
         due.is("AGAIN before the beginning ends", ran(9, s(0, 0, 1, 0), s(10, 0, 20, 0), s(0, 1, 5, 0)).now(7), 0);
         due.is("AGAIN before the beginning", ran(9, s(0, 0, 1, 0), s(10, 0, 20, 0), s(0, 1, 5, 0)).cell(0, 1), 0);
+        due.is("AGAIN at 0 goes on", ran(9, s(10, 0, 1, 0), s(0, 1, 5, 0), s(0, 2, 6, 0)).cell(0, 1), 5);
+        due.is("AGAIN below 0 goes on", ran(9, s(0, 0, -1, 0), s(10, 0, 1, 0), s(0, 1, 5, 0)).cell(0, 1), 5);
+        due.is("AGAIN at its first step without a tick left fails", ran(2, s(0, 0, 1, 0), s(10, 0, 1, 0)).now(7), 1);
         due.is("passed over steps take no tick", ran(3, s(0, 0, 1, 0), s(7, 0, 3, 0), s(0, 1, 1, 0), s(0, 1, 2, 0),
             s(0, 1, 3, 0), s(0, 2, 6, 0)).now(7), 0);
         due.is("SAY: the last counts", ran(9, s(0, 0, 1, 0), s(9, 0, 4, 0), s(0, 0, 2, 0), s(9, 0, 4, 0)).voted(4, 0), 2);
@@ -209,6 +212,18 @@ public final class LanesTest {
         due.is("slots run by ticks, not as told", y.fly(1), 5);
         due.is("slot, behind FRAME 0", y.slot(1, 30, 2), 2);
         due.is("fly(1)", y.fly(1), 7);
+        // Three parts told from the last to the first: cell 0 becomes (0 + 1) * 4 - 1.
+        FlyerRoom z = new FlyerRoom();
+        int[][] steps = {{0, 1, 1, 0}, {1, 0, 0, 1}, {0, 2, 4, 0}, {3, 0, 0, 2}, {2, 0, 0, 1}};
+        for (int[] s : steps) z.step(s[0], s[1], s[2], s[3]);
+        z.part(0, 0, 2);
+        z.part(1, 2, 4);
+        z.part(2, 4, 5);
+        z.slot(2, 30, 9);
+        z.slot(1, 20, 9);
+        z.slot(0, 10, 9);
+        z.fly(1);
+        due.is("three slots by ticks", z.cell(1, 0), 3);
     }
 
     private static void unslot() {
@@ -262,6 +277,41 @@ public final class LanesTest {
         due.is("nor does what is away", flown(3, 1, 5, oneTop).now(6), 2);
     }
 
+    private static void severalWords() {
+        due.promise(7);
+        FlyerRoom x = new FlyerRoom();
+        x.step(9, 0, 0, 0);
+        x.step(9, 1, 1, 0);
+        x.step(9, 2, 5, 0);
+        x.part(0, 0, 3);
+        x.slot(0, 0, 3);
+        x.word(5, 1, 3);
+        x.harm(0, 0, 0, 0, 0);
+        x.harm(0, 0, 1, 2, 2);
+        x.fly(1);
+        due.is("each word for itself: 0", x.voted(0, 1), 1);
+        due.is("each word for itself: 1", x.voted(1, 1), 1);
+        due.is("each word for itself: 5", x.voted(5, 1), 1);
+        due.is("each word for itself: 2", x.voted(2, 1), 0);
+        due.is("who differs in any differs", x.now(6), 3);
+        FlyerRoom y = Due.sayers(1);
+        y.word(0, 1, 0);
+        y.harm(0, 0, 0, 0, 4);
+        due.is("MIDDLE of one", y.fly(1), 16);
+        // Lanes 1 and 2 have 8 and 16 and say it; lane 0 leaps over its word.
+        FlyerRoom z = new FlyerRoom();
+        z.step(7, 1, 1, 0);
+        z.step(9, 0, 0, 0);
+        z.part(0, 0, 2);
+        z.slot(0, 0, 2);
+        z.word(0, 1, 4);
+        z.harm(0, 0, 0, 1, 0);
+        z.harm(0, 0, 1, 0, 3);
+        z.harm(0, 0, 2, 0, 4);
+        due.is("MIDDLE of those said alone", z.fly(1), 12);
+        due.is("now(6)", z.now(6), 1);
+    }
+
     private static void notSaid() {
         due.promise(7);
         // Lane 1 leaps over its word, for its cell 1 is 1.
@@ -312,6 +362,7 @@ public final class LanesTest {
         due.is("cell(0, 7) stays", x.cell(0, 7), 1);
         x.fly(1);
         due.is("lane(0, 0)", x.lane(0, 0), 1);
+        due.is("lane(0, 1)", x.lane(0, 1), 0);
         due.is("lane(0, 2)", x.lane(0, 2), 0);
         due.is("cell(0, 0) copied", x.cell(0, 0), 0);
         due.is("cell(0, 7) copied", x.cell(0, 7), 0);
@@ -351,6 +402,7 @@ public final class LanesTest {
         slots();
         unslot();
         words();
+        severalWords();
         notSaid();
         aside();
         lastOneIn();

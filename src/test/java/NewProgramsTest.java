@@ -56,7 +56,9 @@ public final class NewProgramsTest {
         FlyerRoom y = two();
         y.begin(0, y.seal(1));
         due.is("fly(1)", y.fly(1), 9);
-        due.is("leave(): the old one that stood beside", y.leave(), 2);
+        due.is("piece behind the old one that stands beside", y.piece(0, 0, 1, 0), 3);
+        due.is("count(1)", y.count(1), 2);
+        due.is("leave(): the old one that stood beside", y.leave(), 3);
         due.is("fly(1)", y.fly(1), 9);
     }
 

@@ -105,6 +105,40 @@ public final class ProofsTest {
         fates4(z, new int[] {0, 0, 4}, 1, 3, -1, 0, -1);
     }
 
+    private static void rowsAndLateAside() {
+        due.promise(27);
+        // The word is said, then the cell is set: cells are alike behind the frame, rows only behind the next.
+        FlyerRoom x = new FlyerRoom();
+        x.step(9, 0, 0, 0);
+        x.step(0, 0, 0, 0);
+        x.part(0, 0, 2);
+        x.slot(0, 0, 2);
+        due.is("rows are unlike", x.fate(1, 0, 4, 1, 0), 3);
+        due.is("rows are alike again", x.fate(1, 0, 4, 2, 0), 0);
+        // Without the flip lane 1 is put aside in frame 2, by the flip in frame 3, in which it is not without it.
+        FlyerRoom y = Due.sayers(3);
+        y.harm(0, 0, 1, 0, 4);
+        y.harm(3, 1, 1, 0, 0);
+        fates4(y, new int[] {1, 0, 4}, 3, 3, -1, 0, -1);
+        fates4(y, new int[] {1, 0, 4}, 4, 1, -1, 0, 3);
+    }
+
+    private static void fatesOfCounter() {
+        due.promise(28);
+        // Cell 1 is set ahead of being read, cell 0 is said, the others are not used.
+        FlyerRoom x = new FlyerRoom();
+        x.lanes(1);
+        x.step(0, 1, 1, 0);
+        x.step(1, 0, 0, 1);
+        x.step(9, 0, 0, 0);
+        x.part(0, 0, 3);
+        x.slot(0, 0, 3);
+        int[] want = {32, 0, 32, 320};
+        for (int fate = 0; fate < 4; fate++) due.is("fates(0, 3, " + fate + ")", x.fates(0, 3, fate), want[fate]);
+        x.fly(5);
+        for (int fate = 0; fate < 4; fate++) due.is("fates(0, 3, " + fate + "), later", x.fates(0, 3, fate), want[fate]);
+    }
+
     private static void fates() {
         due.promise(28);
         FlyerRoom x = Due.sayers(3);
@@ -218,6 +252,42 @@ public final class ProofsTest {
         due.is("cause 1 4 5: the count by a bit", causeOf(y, 1, 4, 5), 100001);
     }
 
+    /** Whatever way a step reads a cell, a flip of that cell is found. */
+    private static void causeByEveryAct() {
+        due.promise(31);
+        int[][] acts = {{1, 2, 4, 5, 8}, {1, 2, 5, 4, 8}, {2, 2, 4, 5, 8}, {3, 2, 4, 6, 8}, {3, 2, 6, 4, 8}, {4, 2, 4, 6, 8},
+            {6, 2, 4, 5, 8}, {6, 2, 5, 4, 8}};
+        for (int[] a : acts) {
+            FlyerRoom x = new FlyerRoom();
+            x.lanes(1);
+            x.step(0, 6, 1, 0);
+            x.step(a[0], a[1], a[2], a[3]);
+            x.step(9, 2, 0, 0);
+            x.part(0, 0, 3);
+            x.slot(0, 0, 3);
+            due.is("act " + a[0] + " " + a[2] + " " + a[3], causeOf(x, a[4]), 403);
+            due.is("act " + a[0] + ", bits that reach", x.fates(0, 1, 2) >= 31 ? 1 : 0, 1);
+        }
+        FlyerRoom least = new FlyerRoom();
+        least.lanes(1);
+        least.step(5, 2, 4, 5);
+        least.step(9, 2, 0, 0);
+        least.part(0, 0, 2);
+        least.slot(0, 0, 2);
+        due.is("LEAST, below 0", causeOf(least, -100), 431);
+        FlyerRoom again = new FlyerRoom();
+        again.lanes(1);
+        again.step(0, 3, 1, 0);
+        again.step(1, 2, 2, 3);
+        again.step(9, 2, 0, 0);
+        again.step(2, 4, 4, 3);
+        again.step(10, 4, 3, 0);
+        again.part(0, 0, 5);
+        again.slot(0, 0, 40);
+        due.is("2: the sum had 1", causeOf(again, 2), 200);
+        due.is("4: AGAIN for four rounds", causeOf(again, 4), 402);
+    }
+
     private static void guess() {
         due.promise(32);
         FlyerRoom x = new FlyerRoom();
@@ -316,6 +386,12 @@ public final class ProofsTest {
         x.clock(3, 61, 0);
         // The middle is 50 (101 by 2): 25, 75, 45, 56.
         due.is("near(1), four lanes", x.near(1), 50);
+        x.lanes(3);
+        x.clock(0, 1, 0);
+        x.clock(1, 2, 0);
+        x.clock(2, 6, 0);
+        // 1 lacks 1, half of which is cut to 0; 6 becomes 4.
+        due.is("near(1), 1 and 2 and 4", x.near(1), 3);
     }
 
     public static void main(String[] args) {
@@ -323,10 +399,13 @@ public final class ProofsTest {
         fate();
         fateBesideFaults();
         fateOfOthers();
+        rowsAndLateAside();
         fates();
+        fatesOfCounter();
         box();
         cause();
         causeByNewProgram();
+        causeByEveryAct();
         guess();
         guessTold();
         clock();
