@@ -164,6 +164,24 @@ public final class ImagesTest {
             x.fly(2 * i + 2);
             due.is("the rich flight, " + (2 * i + 2) + " on", all(y), all(x));
         }
+        y.from(1);
+        due.is("slots as they stood, which end at 9, 13 and 22: slot(2, 8, 1)", y.slot(2, 8, 1), -3);
+        due.is("slot(2, 12, 1)", y.slot(2, 12, 1), -3);
+        due.is("slot(2, 21, 1)", y.slot(2, 21, 1), -3);
+        due.is("slot(2, 22, 18)", y.slot(2, 22, 18), 3);
+        due.is("slot(2, 9, 2)", y.slot(2, 9, 2), 4);
+        FlyerRoom k = Due.sayers(3);
+        k.aside(5, 1);
+        k.image(0);
+        k.aside(1, 9);
+        k.from(0);
+        k.harm(0, 0, 1, 0, 0);
+        k.fly(4);
+        due.is("K as it stood, four frames", k.lane(1, 0), 1);
+        k.fly(1);
+        due.is("K as it stood, five", k.lane(1, 0), 0);
+        k.fly(1);
+        due.is("M as it stood", k.lane(1, 0), 1);
         // What was said in the kept frame is gone in the next, in which nobody says anything.
         FlyerRoom z = Due.sayers(3);
         z.harm(1, 0, 0, 0, 5);

@@ -212,9 +212,9 @@ public final class LanesTest {
         due.is("slots run by ticks, not as told", y.fly(1), 5);
         due.is("slot, behind FRAME 0", y.slot(1, 30, 2), 2);
         due.is("fly(1)", y.fly(1), 7);
-        // Three parts told from the last to the first: cell 0 becomes (0 + 1) * 4 - 1.
+        // Three parts told from the last to the first: cell 0 becomes (0 + 1) * 6 - 1.
         FlyerRoom z = new FlyerRoom();
-        int[][] steps = {{0, 1, 1, 0}, {1, 0, 0, 1}, {0, 2, 4, 0}, {3, 0, 0, 2}, {2, 0, 0, 1}};
+        int[][] steps = {{0, 1, 1, 0}, {1, 0, 0, 1}, {0, 2, 6, 0}, {3, 0, 0, 2}, {2, 0, 0, 1}};
         for (int[] s : steps) z.step(s[0], s[1], s[2], s[3]);
         z.part(0, 0, 2);
         z.part(1, 2, 4);
@@ -223,7 +223,7 @@ public final class LanesTest {
         z.slot(1, 20, 9);
         z.slot(0, 10, 9);
         z.fly(1);
-        due.is("three slots by ticks", z.cell(1, 0), 3);
+        due.is("three slots by ticks", z.cell(1, 0), 5);
     }
 
     private static void unslot() {
