@@ -746,6 +746,7 @@ public final class FlyerRoom {
             int top = 0;
             for (int i = 0; i < codeSize; i++) {
                 int sign = -codes[i];
+                if (top >= MOST_TEXT) return 0;
                 if (sign <= 0) {
                     stack[top] = codes[i];
                     top++;
