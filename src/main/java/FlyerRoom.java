@@ -507,6 +507,9 @@ public final class FlyerRoom {
 
     /** What the sensors are; what they told last and which are stuck belongs to the flight. */
     private static final class Sensors {
+        // Beyond whatever a sensor can tell.
+        private static final int FAR = 2000000000;
+
         int size;
         final int[] sorts = new int[MOST_SENSORS];
         final int[] offsets = new int[MOST_SENSORS];
@@ -547,7 +550,7 @@ public final class FlyerRoom {
         }
 
         int leastCommon(int set, Flight flight) {
-            int least = Integer.MIN_VALUE;
+            int least = -FAR;
             for (int i = 0; i < size; i++) {
                 if ((set >> i & 1) == 1) least = Math.max(least, tells(i, flight) - errors[i]);
             }
@@ -555,7 +558,7 @@ public final class FlyerRoom {
         }
 
         int greatestCommon(int set, Flight flight) {
-            int greatest = Integer.MAX_VALUE;
+            int greatest = FAR;
             for (int i = 0; i < size; i++) {
                 if ((set >> i & 1) == 1) greatest = Math.min(greatest, tells(i, flight) + errors[i]);
             }

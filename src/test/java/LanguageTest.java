@@ -129,6 +129,20 @@ public final class LanguageTest {
             return super.visitMethodInvocation(tree, v);
         }
 
+        /** Of the library only functions are listed, no constants. */
+        private void named(TreePath path) {
+            Element e = trees.getElement(path);
+            if (e == null || e.getKind() != ElementKind.FIELD || e.getSimpleName().contentEquals("length")) return;
+            TypeElement owner = (TypeElement) e.getEnclosingElement();
+            if (!owner.getQualifiedName().toString().startsWith("FlyerRoom")) broken(4, named(e) + " is not in the library");
+        }
+
+        @Override
+        public Void visitMemberSelect(MemberSelectTree tree, Void v) {
+            named(getCurrentPath());
+            return super.visitMemberSelect(tree, v);
+        }
+
         @Override
         public Void visitNewClass(NewClassTree tree, Void v) {
             called(getCurrentPath());
