@@ -280,6 +280,10 @@ public final class ProofsEdgesTest {
         due.is("CELLS ahead of bits", cause(cells, 8), 5);
         due.is("bits from 0 on", cause(cells, 100), 9);
         due.is("the top bit", cause(cells, -100), 31);
+        // Cell 4 is looked at by AGAIN alone: 1 is said, or by going back as often as ticks allow 13.
+        FlyerRoom again = Due.runners(1, 40, s(0, 2, 0, 0), s(0, 3, 1, 0), s(1, 2, 2, 3), s(9, 2, 0, 0), s(10, 4, 2, 0));
+        due.is("a CELL that AGAIN alone looks at", cause(again, 13), 400);
+        due.is("all its bits but the top one reach", again.fates(0, 1, 2), 31);
         FlyerRoom last = Due.runners(4, 2, s(1, 10, 10, 11), s(9, 10, 0, 0));
         last.word(0, 1, 1000);
         last.aside(1, 50);
@@ -503,6 +507,18 @@ public final class ProofsEdgesTest {
             for (int lane = 0; lane < 4; lane++) due.is("WORD " + word + " of lane " + lane + ", then", x.voted(word, 2 + lane), 0);
             due.is("no result, then", x.voted(word, 0), 0);
             due.is("whether, then", x.voted(word, 1), 0);
+        }
+        for (int lane = 0; lane < 4; lane++) {
+            // One lane alone says it (its cell 1 is 0), and it says nothing in the next frame.
+            FlyerRoom x = Due.runners(4, 3, s(7, 1, 2, 0), s(0, 0, MIN, 0), s(9, 0, 5, 0));
+            for (int other = 0; other < 4; other++) {
+                if (other != lane) x.harm(0, 0, other, 1, 0);
+            }
+            x.fly(1);
+            for (int l = 0; l < 4; l++) due.is("lane " + lane + " alone, lane " + l, x.voted(5, 2 + l), l == lane ? MIN : 0);
+            x.unslot();
+            x.fly(1);
+            for (int l = 0; l < 4; l++) due.is("lane " + lane + " alone, lane " + l + ", then", x.voted(5, 2 + l), 0);
         }
     }
 
